@@ -1448,7 +1448,7 @@ public final class BoilerTaps {
         }
 
         private int openingOf(int radiator) {
-            if (hasBit(state.air, house.radiatorPipe[radiator])) {
+            if ((state.air >> house.radiatorPipe[radiator] & 1) != 0) {
                 return 0;
             }
             return Math.min(state.opening[radiator], settings.screws[radiator]);
@@ -1574,11 +1574,11 @@ public final class BoilerTaps {
         private int nextOpening(int radiator, int goal) {
             int now = state.opening[radiator];
             int kind = house.tapKind[radiator];
-            if (kind == NO_TAP || hasBit(taps.held, radiator)) {
+            if (kind == NO_TAP || (taps.held >> radiator & 1) != 0) {
                 return now;
             }
             int seen = taps.sees[radiator];
-            boolean feels = kind == DRAUGHT && hasBit(state.windows, seen);
+            boolean feels = kind == DRAUGHT && (state.windows >> seen & 1) != 0;
             int warmth = state.temperature[seen] - (feels ? DRAUGHT_FEELS : 0);
             if (kind == SLOW) {
                 int step = Integer.compare(goal, warmth) * STEP_OF_SLOW;

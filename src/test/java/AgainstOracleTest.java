@@ -92,9 +92,15 @@ public final class AgainstOracleTest {
                 return least;
             case 3:
                 return most;
+            case 4:
+                return chance(4) ? extreme() : any(least, most);
             default:
                 return any(least, most);
         }
+    }
+
+    private int extreme() {
+        return chance(2) ? Integer.MIN_VALUE + any(0, 1) : Integer.MAX_VALUE - any(0, 1);
     }
 
     private boolean chance(int of) {
@@ -110,11 +116,11 @@ public final class AgainstOracleTest {
     }
 
     private int aRoom() {
-        return chance(30) ? any(-1, 8) : any(0, Math.max(0, rooms() - 1));
+        return chance(30) ? any(-1, 8) : chance(99) ? extreme() : any(0, Math.max(0, rooms() - 1));
     }
 
     private int aRadiator() {
-        return chance(30) ? any(-1, 8) : any(0, Math.max(0, radiators() - 1));
+        return chance(30) ? any(-1, 8) : chance(99) ? extreme() : any(0, Math.max(0, radiators() - 1));
     }
 
     // ---- texts
@@ -250,7 +256,7 @@ public final class AgainstOracleTest {
             }
             call("feed", five);
         }
-        call(method, chance(60) ? any(-1, 510) : bytes.length);
+        call(method, chance(60) ? about(0, 500) : bytes.length);
         call("fault");
     }
 
@@ -344,7 +350,7 @@ public final class AgainstOracleTest {
                 break;
             case 8:
                 int from = chance(3) ? about(0, 99999) : any(0, 500);
-                call("holiday", from, from + about(0, 300), about(0, 200));
+                call("holiday", from, chance(20) ? extreme() : from + any(-1, 300), about(0, 200));
                 break;
             case 9:
                 call("pump", about(1, 999));
@@ -406,7 +412,7 @@ public final class AgainstOracleTest {
     }
 
     private int aThing(List<Integer> there) {
-        return chance(4) ? any(-2, 50) : chance(3) ? -1 : there.get(random.nextInt(there.size()));
+        return chance(4) ? about(-1, 49) : chance(3) ? -1 : there.get(random.nextInt(there.size()));
     }
 
     private void look() {
@@ -448,7 +454,7 @@ public final class AgainstOracleTest {
                 call("burst", about(0, 3), about(0, 99));
                 break;
             case 11:
-                call("count", any(-1, 9));
+                call("count", about(0, 8));
                 break;
             default:
                 call("told", about(0, 5));

@@ -6,6 +6,7 @@ public final class PromisesTest {
     private static final String ISE = "throws.IllegalStateException";
     private static int wrong;
 
+    /** =IAE and its like stand for what is thrown. */
     private static void promise(int number, String rows) {
         String told = rows.replace("=IAE", "= " + IAE).replace("=IOOBE", "= " + IOOBE)
                 .replace("=NSEE", "= " + NSEE).replace("=ISE", "= " + ISE);
@@ -165,7 +166,13 @@ public final class PromisesTest {
             words "1000*1000+1" = 0 | part 0 = 1000000
             words "many*100+set" = 0 | part 0 = 323 | part 1 = 200 | words "size" = 0 | part 0 = 42 | part 1 = 1
             part 2 =NSEE | part -1 =NSEE
+            // as deep as it may go, with two things waiting at each level
+            words "1+1*(1+1*(1+1*(1+1*(1+1*(1+1*(1+1*3))))))" = 0 | part 0 = 10
+            words "9-9*(9-9*(9-9*(9-9*(9-9*(9-9*(0+1*size))))))" = 0 | part 0 = *
             """);
+        // old WORDS leave nothing behind, however long they were
+        String longWords = "words \"0" + "+1".repeat(99) + "\" = 0 | part 0 = 99\n";
+        promise(27, "house \"room 1 0;radiator 0 0 42;\" = 1\n" + longWords.repeat(6) + "words \"size\" = 0 | part 0 = 42\n");
     }
 
     private static void claimFaults() {
@@ -429,7 +436,27 @@ public final class PromisesTest {
             things = 7
             house "room 1 1;room 1 1;radiator 0 0 1;radiator 0 0 1;radiator 0 0 1;snap 0 1;snap 2 1;" = 2 | things = 10
             house "room 1 1;room 1 1;radiator 0 0 1;radiator 0 0 1;radiator 0 0 1;snap 0 1;slow 1 1;snap 2 1;" = 2 | things = 14
-            """);
+            """ + "house \"" + "room 1 1;".repeat(8) + "radiator 0 0 1;".repeat(8) + eightTaps(100) + "\" = 8 | things = 35\n");
+        promise(20, lastThings());
+    }
+
+    private static String eightTaps(int set) {
+        StringBuilder taps = new StringBuilder();
+        for (int k = 0; k < 8; k++) {
+            taps.append("slow ").append(k).append(' ').append(set).append(';');
+        }
+        return taps.toString();
+    }
+
+    /** The last TAP SEES the cold ROOM of the one ahead by 46; with 37 the cold ROOM's window is open, too. */
+    private static String lastThings() {
+        String house = "new | house \"" + "room 1 200;".repeat(7) + "room 1 100;window 7 9;" + "radiator 0 0 1;".repeat(6)
+                + "radiator 7 1 1;radiator 6 2 1;snap 6 150;snap 7 150;pump 32;boiler 99999 900;\" = 8\n";
+        return house + "air 0 true = false | things = 17\n"
+                // six RADIATORS without TAPS have 16 parts each; the last one opens by what it SEES
+                + "mark = 1 | back = 0 | log 2 6 2002 = 1 | log 2 7 1000 = 2 | cause 0 0 = 46 | cause 0 1 = -1\n"
+                + house + "log 2 6 2002 = 1 | log 1 7 910 = 2 | log 2 7 829 = 3 | cause 0 0 = 37 | cause 0 1 = 46\n"
+                + "explained 46 37 0 = true | explained 37 -1 0 = false | explained 46 -1 0 = false\n";
     }
 
     /** Three TAPS: by 40, then 41, the last one SEES the first ROOM; the other way round the second one would. */
@@ -458,6 +485,12 @@ public final class PromisesTest {
             // those behind the fourth stay as they are
             new | house "room 9 100;radiator 0 0 1;radiator 0 0 1;radiator 0 0 1;radiator 0 0 1;radiator 0 0 1;" = 1
             screw 4 3 = 16 | screw 3 2 = 16 | balanced 4 0 0 = 3 | balanced 3 0 0 = 4 | balanced 0 0 0 = 16 | balanced 4 0 9999 = -1
+            """);
+        // the farthest TURNING: all four from 1 to 16, for the fifth one takes its 16 parts
+        String five = "new | house \"room 99 100;room 99 400;" + "radiator 0 0 20;".repeat(4) + "radiator 1 0 20;boiler 99999 900;\" = 2\n";
+        promise(22, five + "go 180 = * | room 0 1 = @most\n" + five + """
+            screw 0 1 = 16 | screw 1 1 = 16 | screw 2 1 = 16 | screw 3 1 = 16 | turning 0 @most = 60 | balanced 0 0 @most = 16
+            balanced 3 0 @most = 16 | balanced 4 0 @most = 16 | turning 0 @most+1 = -1 | turning 0 0 = 12 | balanced 2 0 0 = 4
             """);
         promise(23, two + """
             turning 0 0 = 0 | screw 0 15 = 16 | screw 1 6 = 16 | turning 0 0 = 3 | balanced 0 0 0 = 16 | balanced 1 0 0 = 4 | turning 0 9999 = -1
@@ -529,6 +562,10 @@ public final class PromisesTest {
             new | house "room 1 0;sun 0 1 0 1;" = 1 | go 960 = 0 | go 960 = 0 | count 6 = 32 | go 960 = 0 | count 6 = 48
             diary 0 47 0 = 1 | diary 0 47 1 = 60 | diary 0 23 0 = 61 | go 60 = 0 | count 6 = 48 | diary 0 47 0 = 60
             diary 0 0 0 = 121 | diary 0 0 1 = 180 | diary 0 24 0 = 61 | diary 0 48 0 =IAE
+            // a MARK keeps all of them
+            new | house "room 1 0;sun 0 1 0 24;" = 1 | go 960 = 0 | go 960 = 0 | go 960 = 0 | mark = 1 | diary 0 0 0 = 2821
+            go 960 = 0 | go 960 = 0 | go 960 = 0 | diary 0 47 1 = 2940 | back = 0 | diary 0 47 0 = 1 | diary 0 0 1 = 2880
+            diary 0 30 0 = 1021 | diary 0 13 1 = 2100
             """);
         promise(31, """
             house "room 10 200;room 10 200;radiator 1 0 1;wall 0 1 5;outer 1 1;pump 1;" = 2 | cold 0 9999 -1 = 0 | go 60 = *
@@ -589,9 +626,18 @@ public final class PromisesTest {
             rows.append("claim \"").append(row[0]).append("\" = 0 | judge = ").append(row[1]).append('\n');
         }
         promise(33, rows + """
+            claim "got0 0 0and not[got0 0 0and not[got0 0 0and not[got0 1 1]]]" = 0 | judge = 1
+            claim "@deep" = 0 | judge = 1
             claim "got 0 0 0" = 0 | judge = 1 | claim "got 0 0" = -9 | judge = 1 | air 0 true = false | go 60 = 0 | judge = 0
             house "room 1 0;" = 1 | judge = -1
-            """);
+            // one unit in an HOUR is something
+            house "room 99 0;radiator 0 0 1;boiler 1 200;" = 1 | go 1 = 1 | air 0 true = false | go 59 = 0 | claim "got 0 0 0" = 0 | judge = 1
+            """.replace("@deep", deepClaim()));
+    }
+
+    /** Six brackets, with two sides waiting at each level; only the innermost one says yes. */
+    private static String deepClaim() {
+        return "got0 1 1or got0 0 0and[".repeat(6) + "got0 1 1or got0 0 0and got0 0 0" + "]".repeat(6);
     }
 
     private static void pipes() {
@@ -611,6 +657,8 @@ public final class PromisesTest {
         promise(39, """
             burst 0 0 = -1 | gauge 0 0 900 = -1 | burst 0 0 = -1 | gauge 0 3 840 = -1 | burst 0 0 = 0 | burst 0 19 = 0 | burst 0 20 = -1
             gauge 0 9 700 = -1 | burst 0 0 = 3 | burst 0 10 = 3 | burst 0 19 = 3 | burst 0 22 = 3 | burst 0 24 = -1
+            gauge 0 3 877 = 840 | burst 0 7 = 3 | burst 0 29 = 3 | burst 0 30 = -1
+            gauge 3 0 9 = -1 | gauge 3 1 8 = -1 | burst 3 0 = 0 | burst 3 1 = -1 | gauge 3 1 9 = 8 | burst 3 0 = -1 | gauge 3 0 -1 = 9
             // of alike ones the first; only next GAUGES; pressure that rises does not count; each PIPE by itself
             gauge 1 0 500 = -1 | gauge 1 1 400 = -1 | gauge 1 2 300 = -1 | burst 1 5 = 0 | gauge 1 1 600 = 400 | burst 1 5 = 1
             gauge 2 4 1 = -1 | gauge 2 5 999 = -1 | burst 2 0 = -1 | burst 3 0 = -1 | burst 4 0 =IAE | burst -1 0 =IAE
@@ -653,5 +701,16 @@ public final class PromisesTest {
             radiator 0 9 = 0 | radiator 0 5 = 0 | radiator 0 7 = 0 | room 0 1 = 2000 | room 0 6 = 0 | dead 1 = 0 | part 0 = 10 | judge = -1
             air 0 true = false | air 1 true = false | go 60 = 0 | judge = 0
             """);
+        // nothing of an older HOUSE comes through
+        String rich = "house \"room 1 200;room 1 100;wall 0 1 9;outer 0 9;window 0 9;sun 0 9 0 24;radiator 0 1 9;radiator 1 1 9;snap 0 300;"
+                + "slow 1 300;pump 7;boiler 77 777;\" = 2\n";
+        String poor = "house \"room 1 200;room 1 100;radiator 0 0 1;\" = 2\n";
+        promise(3, rich + "open 0 true = false | go 99 = *\n" + poor + poor + """
+            wall 0 1 = 0 | room 0 2 = 0 | room 0 3 = 0 | room 0 9 = 0 | room 0 5 = 0 | room 0 7 = 0 | room 0 8 = 0 | told 1 = 1 | told 2 = 100
+            told 3 = 9999 | told 4 = 600 | radiator 0 3 = 0 | radiator 0 4 = 0 | radiator 0 5 = 16 | radiator 0 8 = 0 | radiator 0 10 = 0
+            clock 2 = 0 | count 5 = 0 | things = 6 | radiator 1 0 =NSEE | go 1 = 40 | room 0 9 = 0 | room 0 1 = 2040 | room 1 1 = 1000
+            """);
+        promise(3, rich + "open 0 true = false | go 99 = *\n" + rich
+                + "room 0 9 = 0 | room 0 5 = 0 | room 0 7 = 0 | room 0 8 = 0 | radiator 0 8 = 0 | radiator 0 10 = 0 | clock 2 = 0\n");
     }
 }
