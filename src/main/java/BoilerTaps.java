@@ -550,12 +550,12 @@ public final class BoilerTaps {
 
     // ---- trials
 
+    /** Where there is no HOUSE there is no RADIATOR either, so that nothing is left for IllegalStateException. */
     public int balanced(int radiator, int out, int want)
             throws NoSuchElementException, IllegalArgumentException, IllegalStateException {
         needRadiator(radiator);
         needOut(out);
         needWithin(want, 0, HOTTEST);
-        needHouse();
         int way = bestWay(out, want);
         if (way == NONE) {
             return NONE;
@@ -1064,8 +1064,6 @@ public final class BoilerTaps {
             Arrays.fill(outer, 0);
             Arrays.fill(window, 0);
             Arrays.fill(sun, 0);
-            Arrays.fill(sunFrom, 0);
-            Arrays.fill(sunTo, 0);
             Arrays.fill(tapKind, NO_TAP);
             Arrays.fill(tapSet, 0);
         }

@@ -135,6 +135,7 @@ public final class PromisesTest {
         fault("house", "pump 1", 1, 6);
         fault("house", "   ", 4, 3);
         promise(3, "house \"" + "pump 1;".repeat(39) + "room 1 1;\" = 1 | told 5 = 40\n");
+        promise(3, "house \"" + rooms + "sun 0 0 0 24;wall 0 1 0;outer 0 0;window 1 0;boiler 1 200;pump 1;radiator 0 0 1;\" = 2\n");
         promise(3, "house \"" + "room 1 1;".repeat(8) + "radiator 7 3 99;".repeat(8) + "\" = 8 | told 1 = 8\n");
         promise(3, "house \"" + rooms + "sun 0 999 0 24;wall 0 1 99;outer 0 99;window 1 99;boiler 99999 900;"
                 + "pump 999;room 99 400;radiator 2 0 1;slow 0 400;snap 0 0;\" = 3 | radiator 0 3 = 1 | radiator 0 4 = 0\n");
@@ -341,6 +342,8 @@ public final class PromisesTest {
             go 1 = 0 | room 0 1 = 2124 | radiator 0 5 = 0 | radiator 0 10 = 1 | hunts 1 = 1 | hunts 2 = 0
             go 59 = 0 | clock 0 = 65 | hunts 1 = 1 | go 1 = 0 | hunts 1 = 0 | radiator 0 10 = 0
             hunts 0 =IAE | hunts 61 =IAE | hunts 60 = 0
+            // a HOUSE anew: its first move is no TURN, whatever moved last ahead of it
+            house "room 1 207;radiator 0 0 1;snap 0 210;sun 0 9 0 24;boiler 1 200;" = 1 | go 1 = 0 | radiator 0 5 = 16 | hunts 1 = 0
             // at both bounds it stays: not below GOAL less 20, not above GOAL and 20
             new | house "room 1 206;radiator 0 0 1;snap 0 210;sun 0 10 0 24;boiler 1 200;" = 1
             go 1 = 0 | radiator 0 5 = 16 | go 5 = 0 | room 0 1 = 2120 | radiator 0 5 = 16 | go 1 = 0 | radiator 0 5 = 0
