@@ -466,7 +466,16 @@ public final class PromisesTest {
     private static String exchangedTwice() {
         return "new | house \"room 1 100;room 1 200;room 1 200;radiator 0 0 1;radiator 1 1 1;radiator 2 2 1;"
                 + "snap 0 150;snap 1 150;snap 2 150;pump 32;boiler 99999 900;\" = 3\n"
-                + "log 2 2 2022 = 1 | explained 40 41 0 = true | explained 41 40 0 = true | explained 40 40 0 = false\n";
+                + "log 2 2 2022 = 1 | explained 40 41 0 = true | explained 41 40 0 = true | explained 40 40 0 = false\n"
+                + onlyTheOtherWayRound();
+    }
+
+    /** A LOG that 41 and then 40 would explain, TAPS seeing ROOMS 2, 0, 1; the lesser comes first, so nothing does. */
+    private static String onlyTheOtherWayRound() {
+        return "new | house \"room 1 100;room 1 200;room 1 300;radiator 0 0 1;radiator 1 1 1;radiator 2 2 1;"
+                + "snap 0 250;snap 1 150;snap 2 250;pump 32;boiler 99999 900;\" = 3\n"
+                + "log 1 1 2000 = 1 | log 2 0 1000 = 2 | log 2 1 2011 = 3 | log 2 2 3009 = 4\n"
+                + "explained 40 41 0 = false | explained 41 40 0 = false | cause 0 0 = -2 | cause 0 1 = -2\n";
     }
 
     private static void trials() {
