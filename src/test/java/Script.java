@@ -2,17 +2,27 @@ import java.lang.reflect.InvocationTargetException;
 import java.lang.reflect.Method;
 import java.lang.reflect.Modifier;
 import java.nio.charset.StandardCharsets;
+import java.util.ArrayList;
 import java.util.Arrays;
+import java.util.HashMap;
+import java.util.List;
+import java.util.Map;
 
 /**
  * Plays runs of calls that are written as rows: name, arguments, "=", the answer that is due. A text in quotes
  * is fed to the TAPE, and its length is the argument. "new" makes a new object. Behind "throws." stands the
- * name of the exception that is due. "|" parts calls on one row. "*" as an answer: it is not looked at; "@name"
- * keeps an answer, and "@name" or "@name+1" as argument or answer uses it.
+ * name of the exception that is due, or IAE, IOOBE, NSEE, ISE for it. "|" parts calls on one row. "*" as an
+ * answer: it is not looked at; "@name" keeps an answer, and "@name" or "@name+1" as argument or answer uses it.
  */
 final class Script {
+    private static final int MOST_CALLS = 512;
+    private static final Map<String, String> SHORT = Map.of(
+            "IAE", "throws.IllegalArgumentException", "IOOBE", "throws.IndexOutOfBoundsException",
+            "NSEE", "throws.NoSuchElementException", "ISE", "throws.IllegalStateException");
+    private static final Map<String, Method> FACE = face();
+
     private final String title;
-    private final java.util.Map<String, Integer> kept = new java.util.HashMap<>();
+    private final Map<String, Integer> kept = new HashMap<>();
     private BoilerTaps x = new BoilerTaps();
     private int wrong;
     private int calls;
@@ -21,17 +31,53 @@ final class Script {
         this.title = title;
     }
 
+    private static Map<String, Method> face() {
+        Map<String, Method> face = new HashMap<>();
+        for (Method m : BoilerTaps.class.getDeclaredMethods()) {
+            if (Modifier.isPublic(m.getModifiers())) {
+                face.put(m.getName(), m);
+            }
+        }
+        return face;
+    }
+
     /** How many answers were not as due. */
     static int play(String title, String rows) {
         Script s = new Script(title);
+        s.go(rows);
+        return s.wrong;
+    }
+
+    /** How many answers were not as due till now. */
+    int wrong() {
+        return wrong;
+    }
+
+    void go(String rows) {
+        for (String row : calls(rows)) {
+            row(row);
+        }
+    }
+
+    /** What each call of rows without "=" answers, one after another. */
+    List<String> answers(String rows) {
+        List<String> answers = new ArrayList<>();
+        for (String row : calls(rows)) {
+            answers.add(row + " = " + answer(row));
+        }
+        return answers;
+    }
+
+    private static List<String> calls(String rows) {
+        List<String> calls = new ArrayList<>();
         for (String line : rows.split("\n")) {
             for (String row : line.split("\\|")) {
                 if (!row.isBlank() && !row.strip().startsWith("//")) {
-                    s.row(row.strip());
+                    calls.add(row.strip());
                 }
             }
         }
-        return s.wrong;
+        return calls;
     }
 
     private void row(String row) {
@@ -48,7 +94,8 @@ final class Script {
             kept.put(due.substring(1), Integer.parseInt(got));
             return;
         }
-        String want = due.startsWith("@") ? String.valueOf(value(due)) : due;
+        boolean isNumber = due.startsWith("@") || due.matches("-?\\d+");
+        String want = isNumber ? String.valueOf(value(due)) : SHORT.getOrDefault(due, due);
         if (!want.equals("*") && !want.equals(got)) {
             wrong++;
             System.out.println(title + ": " + call + " answered " + got + ", due is " + want);
@@ -59,14 +106,15 @@ final class Script {
         int quote = call.indexOf('"');
         if (quote >= 0) {
             String text = call.substring(quote + 1, call.lastIndexOf('"'));
-            feed(x, text);
+            calls += feed(x, text);
             return invoke(call.substring(0, quote).strip(), String.valueOf(text.length()));
         }
         String[] parts = call.split("\\s+");
         return invoke(parts[0], Arrays.copyOfRange(parts, 1, parts.length));
     }
 
-    static void feed(BoilerTaps x, String text) {
+    /** Puts a text on the TAPE, with bytes of 0 up to the next twenty: how many calls that took. */
+    static int feed(BoilerTaps x, String text) {
         byte[] bytes = text.getBytes(StandardCharsets.ISO_8859_1);
         byte[] whole = Arrays.copyOf(bytes, (bytes.length + 19) / 20 * 20);
         for (int i = 0; i < whole.length; i += 20) {
@@ -76,6 +124,7 @@ final class Script {
             }
             x.feed(five[0], five[1], five[2], five[3], five[4]);
         }
+        return whole.length / 20;
     }
 
     private int value(String word) {
@@ -89,26 +138,24 @@ final class Script {
 
     private String invoke(String name, String... words) {
         calls++;
-        if (calls > 512) {
+        if (calls > MOST_CALLS) {
             throw new IllegalStateException(title + ": more calls than an object is promised for");
         }
-        for (Method m : BoilerTaps.class.getDeclaredMethods()) {
-            if (!m.getName().equals(name) || !Modifier.isPublic(m.getModifiers())) {
-                continue;
-            }
-            Object[] args = new Object[words.length];
-            for (int i = 0; i < args.length; i++) {
-                args[i] = m.getParameterTypes()[i] == boolean.class
-                        ? (Object) words[i].equals("true") : (Object) value(words[i]);
-            }
-            try {
-                return String.valueOf(m.invoke(x, args));
-            } catch (InvocationTargetException e) {
-                return "throws." + e.getCause().getClass().getSimpleName();
-            } catch (IllegalAccessException e) {
-                throw new IllegalStateException(e);
-            }
+        Method m = FACE.get(name);
+        if (m == null || m.getParameterCount() != words.length) {
+            throw new IllegalStateException(title + ": no such call, " + name + " " + Arrays.toString(words));
         }
-        throw new IllegalStateException("no method " + name);
+        Object[] args = new Object[words.length];
+        for (int i = 0; i < args.length; i++) {
+            args[i] = m.getParameterTypes()[i] == boolean.class
+                    ? (Object) words[i].equals("true") : (Object) value(words[i]);
+        }
+        try {
+            return String.valueOf(m.invoke(x, args));
+        } catch (InvocationTargetException e) {
+            return "throws." + e.getCause().getClass().getSimpleName();
+        } catch (IllegalAccessException e) {
+            throw new IllegalStateException(e);
+        }
     }
 }
