@@ -933,7 +933,8 @@ public final class BoilerTaps {
         }
 
         boolean takeSign(char sign) {
-            if (atEnd() || bytes[at] != sign) {
+            skipBlanks();
+            if (at >= end || bytes[at] != sign) {
                 return false;
             }
             from = at;

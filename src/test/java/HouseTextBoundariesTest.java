@@ -124,7 +124,8 @@ public final class HouseTextBoundariesTest {
         for (int kind = 0; kind < kinds.length; kind++) {
             house("\"" + kinds[kind] + "\" K N (SET to tenths, 0 to 400)", 1, new Sentences.Place(RADIATOR + kinds[kind] + " 0 ", ";",
                     0, 400, "radiator 0 4 = N | radiator 0 3 = " + (kind + 1)));
-            house("\"" + kinds[kind] + "\" K (the TAP of a RADIATOR)", 1, new Sentences.Place(RADIATOR + "radiator 0 0 1;" + kinds[kind] + " ",
+            house("\"" + kinds[kind] + "\" K (the TAP of a RADIATOR)", 1,
+                new Sentences.Place(RADIATOR + "radiator 0 0 1;" + kinds[kind] + " ",
                     " 77;", 0, 1, "radiator N 4 = 77 | radiator N 3 = " + (kind + 1) + " | count 5 = 1"));
         }
         String rooms = "room 1 1;".repeat(8);
@@ -149,7 +150,8 @@ public final class HouseTextBoundariesTest {
                 sun + "8 8;\" = -8 | fault = 19", sun + "8 7;\" = -8 | fault = 19", sun + "8 9;\" = 1 | fault = -1",
                 sun + "0 0;\" = -8 | fault = 19", sun + "0 1;\" = 1", sun + "23 24;\" = 1", sun + "23 23;\" = -8 | fault = 20",
                 sun + "24 24;\" = -8 | fault = 20", sun + "24 25;\" = -8 | fault = 20", sun + "24 23;\" = -8 | fault = 20",
-                sun + "25 26;\" = -8 | fault = 17", sun + "4294967296 24;\" = -8 | fault = 17", sun + "023 024;\" = 1", sun + "25 x\" = -8 | fault = 17", sun + "22 24;\" = 1",
+                sun + "25 26;\" = -8 | fault = 17", sun + "4294967296 24;\" = -8 | fault = 17", sun + "023 024;\" = 1",
+                sun + "25 x\" = -8 | fault = 17", sun + "22 24;\" = 1",
                 sun + "24 x;\" = -9 | fault = 20", sun + "24\" = -9 | fault = 19", sun + "23 25;\" = -8 | fault = 20");
     }
 
@@ -161,9 +163,11 @@ public final class HouseTextBoundariesTest {
                 "house \"wall 0 1 5;room 1 1;room 1 1;\" = -8 | fault = 5",
                 "house \"room 1 1;wall 0 1 5;room 1 1;\" = -8 | fault = 16 | house \"room 1 1;wall 1 0 5;room 1 1;\" = -8 | fault = 14",
                 "house \"room 1 1;outer 1 5;room 1 1;\" = -8 | fault = 15 | house \"room 1 1;window 1 5;room 1 1;\" = -8 | fault = 16",
-                "house \"room 1 1;sun 1 5 0 1;room 1 1;\" = -8 | fault = 13 | house \"room 1 1;radiator 1 0 5;room 1 1;\" = -8 | fault = 18",
+                "house \"room 1 1;sun 1 5 0 1;room 1 1;\" = -8 | fault = 13 | house \"room 1 1;radiator 1 0 5;room 1 1;\" = -8 | "
+                + "fault = 18",
                 "house \"room 1 1;room 1 1;wall 0 1 5;outer 1 5;window 1 5;sun 1 5 0 1;radiator 1 0 5;\" = 2",
-                "house \"" + room.repeat(7) + "outer 7 1;\" = -8 | fault = 69 | house \"" + room.repeat(8) + "outer 8 1;\" = -8 | fault = 78");
+                "house \"" + room.repeat(7) + "outer 7 1;\" = -8 | fault = 69 | house \"" + room.repeat(8) + "outer 8 1;\" = -8 | "
+                + "fault = 78");
         S.says("2 a number that is none such (a .. RADIATOR that was not told ahead",
                 "house \"snap 0 5;\" = -8 | fault = 5 | house \"slow 0 5;\" = -8 | fault = 5 | house \"draught 0 5;\" = -8 | fault = 8",
                 "house \"room 1 1;snap 0 5;radiator 0 0 1;\" = -8 | fault = 14",
@@ -187,7 +191,8 @@ public final class HouseTextBoundariesTest {
                 "house \"Room 1 1;\" = -9 | fault = 0 | house \"rooM 1 1;\" = -9 | fault = 0 | house \"ro om 1 1;\" = -9 | fault = 0",
                 "house \"roomroom 1 1;\" = -9 | fault = 0 | house \"room_1 1;\" = -9 | fault = 4 | house \"roomS 1 1;\" = -9 | fault = 4",
                 "house \"room 1 1;pump5;boiler5 600;\" = 1 | told 2 = 5 | house \"room 1 1;pumpx 5;\" = -9 | fault = 9",
-                "house \"oom 1 1;\" = -9 | fault = 0 | house \"room 1 1;wal 0 1 5;\" = -9 | fault = 9 | house \"meter 1 1;\" = -9 | fault = 0");
+                "house \"oom 1 1;\" = -9 | fault = 0 | house \"room 1 1;wal 0 1 5;\" = -9 | fault = 9 | house \"meter 1 1;\" = -9 | "
+                + "fault = 0");
         String clauses = "radiator 0 0 1;snap 0 1;slow 0 1;draught 0 1;wall 0 1 1;outer 0 1;window 0 1;sun 0 1 0 1;pump 1;boiler 1 200;";
         S.says("CLAUSE: each of its words", "house \"" + TWO + clauses + "\" = 2 | told 5 = 12",
                 "house \"" + TWO + clauses.replace(" ", "  ").replace(";", " ; ") + "\" = 2 | told 5 = 12");
@@ -240,16 +245,19 @@ public final class HouseTextBoundariesTest {
                 "go 60 = 0 | room 0 9 = 0 | room 1 9 = 8 | house \"room 9 1;sun 0 9 0 24;sun 0 0 5 6;\" = 1 | go 1 = 0 | room 0 9 = 0");
         S.says("Of one thing (TAP of a RADIATOR) the last CLAUSE counts",
                 "house \"" + RADIATOR + "radiator 0 0 1;snap 0 9;draught 1 8;slow 0 7;\" = 1 | radiator 0 3 = 2 | radiator 0 4 = 7",
-                "radiator 1 3 = 3 | radiator 1 4 = 8 | count 5 = 2 | house \"" + RADIATOR + "slow 0 9;snap 0 0;\" = 1 | radiator 0 3 = 1 | radiator 0 4 = 0");
+                "radiator 1 3 = 3 | radiator 1 4 = 8 | count 5 = 2 | house \"" + RADIATOR + "slow 0 9;snap 0 0;\" = 1 | "
+                + "radiator 0 3 = 1 | radiator 0 4 = 0");
         S.says("Of one thing (pump; boiler) the last CLAUSE counts",
                 "house \"pump 5;boiler 5 500;room 1 1;pump 7;boiler 6 400;\" = 1 | told 2 = 7 | told 3 = 6 | told 4 = 400 | told 5 = 5");
     }
 
     private static void without() {
         S.says("Without: no wall, outer, window, sun; no TAP; pump 100 (it can be told anew); boiler 9,999, 600 tenths",
-                "house \"" + TWO + "radiator 0 0 1;\" = 2 | wall 0 1 = 0 | room 0 2 = 0 | room 0 3 = 0 | radiator 0 3 = 0 | radiator 0 4 = 0",
+                "house \"" + TWO + "radiator 0 0 1;\" = 2 | wall 0 1 = 0 | room 0 2 = 0 | room 0 3 = 0 | radiator 0 3 = 0 | "
+                + "radiator 0 4 = 0",
                 "radiator 0 5 = 16 | told 2 = 100 | told 3 = 9999 | told 4 = 600 | pump 101 = 100 | told 2 = 100 | pump 9 = 101",
-                "open 0 true = false | open 1 true = false | out 0 -4000 = 0 | go 1 = * | room 0 9 = 0 | room 0 5 = 0 | room 0 6 = 0 | room 0 7 = 0");
+                "open 0 true = false | open 1 true = false | out 0 -4000 = 0 | go 1 = * | room 0 9 = 0 | room 0 5 = 0 | room 0 6 = 0 | "
+                + "room 0 7 = 0");
     }
 
     /** Each text is cut at every place: a word that is cut is none such; all else ends too early. */
@@ -286,9 +294,12 @@ public final class HouseTextBoundariesTest {
                 "house \"" + full + "boiler 1 200;pump 1;\" = -7 | fault = 282",
                 "house \"" + "pump 1;".repeat(41) + "\" = -7 | fault = 280 | house \"" + "pump 1;".repeat(40) + "\" = -6 | fault = 280");
         S.says("3 a 9th ROOM (at the word)",
-                "house \"" + "room 1 1;".repeat(7) + "\" = 7 | house \"" + "room 1 1;".repeat(8) + "\" = 8 | told 0 = 8 | room 7 1 = 10 | room 8 1 = IOOBE",
-                "house \"" + "room 1 1;".repeat(9) + "\" = -7 | fault = 72 | told 0 = 8 | house \"" + "room 1 1;".repeat(8) + "  room\" = -7 | fault = 74",
-                "house \"" + "room 1 1;".repeat(8) + "room 0 0\" = -7 | fault = 72 | house \"" + "room 1 1;".repeat(8) + "pump 5;room 1 1;\" = -7 | fault = 79",
+                "house \"" + "room 1 1;".repeat(7) + "\" = 7 | house \"" + "room 1 1;".repeat(8) + "\" = 8 | told 0 = 8 | room 7 1 = 10 | "
+                + "room 8 1 = IOOBE",
+                "house \"" + "room 1 1;".repeat(9) + "\" = -7 | fault = 72 | told 0 = 8 | house \"" + "room 1 1;".repeat(8)
+                + "  room\" = -7 | fault = 74",
+                "house \"" + "room 1 1;".repeat(8) + "room 0 0\" = -7 | fault = 72 | house \"" + "room 1 1;".repeat(8)
+                + "pump 5;room 1 1;\" = -7 | fault = 79",
                 "house \"" + "room 1 1;".repeat(8) + "rooms\" = -9 | fault = 72");
         S.says("3 a 9th .. RADIATOR (at the word)",
                 "house \"room 1 1;" + "radiator 0 0 1;".repeat(7) + "\" = 1 | told 1 = 7",
@@ -301,7 +312,8 @@ public final class HouseTextBoundariesTest {
 
     private static void noRoom() {
         S.says("4 at the length: there is no ROOM",
-                "house \"\" = -6 | fault = 0 | house \" \" = -6 | fault = 1 | house \"pump 5;\" = -6 | fault = 7 | house \"pump 5;  \" = -6 | fault = 9",
+                "house \"\" = -6 | fault = 0 | house \" \" = -6 | fault = 1 | house \"pump 5;\" = -6 | fault = 7 | "
+                + "house \"pump 5;  \" = -6 | fault = 9",
                 "house \"boiler 1 200;pump 1;\" = -6 | fault = 20 | house \"room 1 1;\" = 1 | fault = -1 | told 0 = 1");
     }
 
@@ -309,7 +321,8 @@ public final class HouseTextBoundariesTest {
         S.says("FAULTS, the first from the left, at its first byte",
                 "house \"room 0 401;\" = -8 | fault = 5 | house \"room 1 401 x\" = -8 | fault = 7 | house \"room 1 x 0;\" = -9 | fault = 7",
                 "house \"room 100\" = -8 | fault = 5 | house \"x room 0 0;\" = -9 | fault = 0 | house \"pump 0;\" = -8 | fault = 5",
-                "house \"pump 5\" = -9 | fault = 6 | house \"room 1 1;pump 0;\" = -8 | fault = 14 | house \"room 1 1;room 1 1;room 0 0\" = -8 | fault = 23",
+                "house \"pump 5\" = -9 | fault = 6 | house \"room 1 1;pump 0;\" = -8 | fault = 14 | "
+                + "house \"room 1 1;room 1 1;room 0 0\" = -8 | fault = 23",
                 "house \"room 00100 1;\" = -8 | fault = 5 | house \"room 1 1;pump 1;;\" = -9 | fault = 16 | house \";\" = -9 | fault = 0",
                 "house \"" + "room 1 1;".repeat(8) + "outer 8 1;room 1 1;\" = -8 | fault = 78",
                 "house \"" + "room 1 1;".repeat(8) + "room 0 1;outer 8 1;\" = -7 | fault = 72");
@@ -319,22 +332,27 @@ public final class HouseTextBoundariesTest {
         String full = "room 1 1;" + "pump 1;".repeat(39);
         S.says("of one the least",
                 "house \"pump 1\" = -9 | fault = 6 | house \"pump\" = -9 | fault = 4 | house \"boiler 1\" = -9 | fault = 8",
-                "house \"" + full + "tap 1;\" = -9 | fault = 282 | house \"" + full + ";\" = -9 | fault = 282 | house \"" + full + "5\" = -9 | fault = 282",
-                "house \"" + "pump 1;".repeat(40) + "x\" = -9 | fault = 280 | house \"" + "room 1 1;".repeat(8) + "Room 1 1;\" = -9 | fault = 72");
+                "house \"" + full + "tap 1;\" = -9 | fault = 282 | house \"" + full + ";\" = -9 | fault = 282 | house \"" + full
+                + "5\" = -9 | fault = 282",
+                "house \"" + "pump 1;".repeat(40) + "x\" = -9 | fault = 280 | house \"" + "room 1 1;".repeat(8) + "Room 1 1;\" = -9 | "
+                + "fault = 72");
     }
 
     private static void placeOfTheFault() {
         S.says("fault: the place of the FAULT of the latest house(), words() or claim(); NONE without",
-                "fault = -1 | house \"room 1 0401;\" = -8 | fault = 7 | fault = 7 | words \"1+\" = -9 | fault = 2 | claim \"got 9 0 0\" = -8 | fault = 4",
+                "fault = -1 | house \"room 1 0401;\" = -8 | fault = 7 | fault = 7 | words \"1+\" = -9 | fault = 2 | "
+                + "claim \"got 9 0 0\" = -8 | fault = 4",
                 "words \"1\" = 0 | fault = -1 | house \"\" = -6 | fault = 0 | claim \"got 0 0 0\" = 0 | fault = -1",
-                "words \"\" = -9 | fault = 0 | house \"room 1 1;\" = 1 | fault = -1 | words \"  x\" = -9 | fault = 2 | go 1 = 0 | mark = 1 | back = 0 | fault = 2",
+                "words \"\" = -9 | fault = 0 | house \"room 1 1;\" = 1 | fault = -1 | words \"  x\" = -9 | fault = 2 | go 1 = 0 | "
+                + "mark = 1 | back = 0 | fault = 2",
                 "feed 0 0 0 0 0 = 20 | fault = 2 | claim \"\" = -9 | fault = 0");
     }
 
     private static void told() {
         S.says("told: (0, 0, 100, 9,999, 600 without one), 5 CLAUSES; IllegalArgumentException: another what",
                 "told 0 = 0 | told 1 = 0 | told 2 = 100 | told 3 = 9999 | told 4 = 600 | told 5 = 0 | told 6 = IAE | told -1 = IAE",
-                "told 2147483647 = IAE | told -2147483648 = IAE | house \"room 1 1;pump 5;\" = 1 | told 5 = 2 | told 6 = IAE | told -1 = IAE",
+                "told 2147483647 = IAE | told -2147483648 = IAE | house \"room 1 1;pump 5;\" = 1 | told 5 = 2 | told 6 = IAE | "
+                + "told -1 = IAE",
                 "pump 9 = 5 | told 2 = 5 | house \"pump 1\" = -9 | told 0 = 1 | told 5 = 2");
     }
 }
