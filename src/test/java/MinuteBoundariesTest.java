@@ -112,6 +112,10 @@ public final class MinuteBoundariesTest {
                 + "night 0 0 12 = 7 | go 1 = 0 | radiator 0 5 = 16",
                 "night 0 0 13 = 12 | go 1 = 0 | radiator 0 5 = 0 | night 0 0 12 = 13 | go 1 = 0 | radiator 0 5 = 0 | night 0 0 0 = 12 | "
                 + "go 1 = 0 | radiator 0 5 = 16",
+                // out of its HOURS not a tenth is taken off or put on: 203 opens from 2000, 202 does not
+                "new | house \"room 1 200;radiator 0 0 1;snap 0 203;radiator 0 0 1;snap 1 202;pump 1;\" = 1 | night 1 2 9 = 0 | "
+                + "go 60 = 0 | radiator 0 5 = 16 | radiator 1 5 = 0 | go 1 = 0 | radiator 0 5 = 0 | go 60 = 0 | radiator 0 5 = 16 | "
+                + "radiator 1 5 = 0",
                 "new | house \"room 1 0;radiator 0 0 1;slow 0 199;radiator 0 0 1;slow 1 200;radiator 0 0 1;slow 2 201;pump 1;\" = 1",
                 "go 8 = 0 | radiator 0 5 = 16 | radiator 1 5 = 16 | radiator 2 5 = 16 | night 0 0 200 = 0 | go 1 = 0 | "
                 + "radiator 0 5 = 14 | radiator 1 5 = 16 | radiator 2 5 = 16");
