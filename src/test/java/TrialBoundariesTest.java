@@ -27,6 +27,8 @@ public final class TrialBoundariesTest {
         screwsOfBalanced();
         firstFourRadiators();
         balancedMinutes();
+        trialsWithAllElseAsItIs();
+        trialsBeginWith();
         balancedArguments();
         wakeMinutes();
         wakeOuts();
@@ -343,6 +345,60 @@ public final class TrialBoundariesTest {
                 + "turning 4000 @warm+1 = -1 | turning 0 0 = 0 | turning 0 1 = -1 | turning -1 0 = 0 | turning -100 0 = -1",
                 "new | house \"room 10 200;radiator 0 0 10;snap 0 210;\" = 1 | air 0 true = false | turning 0 2040 = 0 | "
                 + "night 0 0 7 = 0 | turning 0 2040 = 0 | night 0 0 8 = 7 | turning 0 2001 = -1 | turning 0 2000 = 0");
+    }
+
+    /** Its water of 600 tenths never makes it 7000, that of 900 makes it 7812 in the end; with a pump of 1 it stays at 2000. */
+    private static void trialsWithAllElseAsItIs() {
+        String house = "new | house \"room 10 200;radiator 0 0 10;\" = 1\n";
+        String tap = "new | house \"room 10 200;radiator 0 0 10;snap 0 210;\" = 1\n";
+        String hot = "water 0 900 = 0 | water 1 900 = 0 | water 2 900 = 0 | water 3 900 = 0\n";
+        S.says("BALANCED: from the beginning (.. HOLIDAYS, WATER of HOURS and pump as they are)",
+                house + "turning 0 7000 = -1 | balanced 0 0 7000 = -1\n" + hot + "turning 0 7812 = 0 | turning 0 7813 = -1 | "
+                + "balanced 0 0 7812 = 16",
+                house + "turning 0 2001 = 0 | pump 1 = 100 | turning 0 2001 = -1 | balanced 0 0 2001 = -1 | turning 0 2000 = 0",
+                tap + "turning 0 2001 = 0 | holiday 180 999 200 = 1 | turning 0 2001 = 0 | holiday 0 180 7 = 2 | turning 0 2001 = 0",
+                "holiday 0 180 8 = 3 | turning 0 2001 = -1 | balanced 0 0 2001 = -1 | turning 0 2000 = 0",
+                // from MINUTE 0, whatever MINUTE it is now
+                tap + "holiday 200 999 200 = 1 | go 250 = * | turning 0 2001 = 0");
+        S.says("WAKE: from now on (as all is): WATER of HOURS, pump and SCREWS",
+                house + "wake 0 0 7000 = -1\n" + hot + "wake 0 0 7000 = 130",
+                house + "pump 999 = 100 | wake 0 0 5000 = 20 | pump 100 = 999 | wake 0 0 5000 = 150 | pump 1 = 100 | wake 0 0 2001 = -1",
+                "new | house \"room 10 200;room 10 200;radiator 0 0 10;radiator 1 1 10;\" = 2 | wake 0 0 2150 = 10 | "
+                + "screw 0 8 = 16 | wake 0 0 2150 = 20 | open 0 true = false | wake 0 0 2150 = 20");
+        S.says("A WISH: from now on: NIGHT, HOLIDAYS, WATER of HOURS and pump as they are",
+                "new | house \"room 10 200;radiator 0 0 10;snap 0 190;\" = 1 | wish 0 13 2 -1 = 400 | pump 50 = 100 | "
+                + "wish 0 13 2 -1 = 200 | water 0 900 = 0 | wish 0 13 2 -1 = 350 | night 0 0 1 = 0 | wish 0 13 2 -1 = 0",
+                "wish 0 14 2 -1 = 350 | holiday 0 9 2 = 1 | wish 0 14 2 -1 = 0 | wish 0 15 2 -1 = 350 | go 9 = 0 | "
+                + "wish 0 14 2 -1 = 350 | out 0 -4000 = 0 | wish 0 14 2 -1 = 350");
+    }
+
+    /** What the trials begin with: BALANCED with what was at first, WAKE and WISHES with what is now. */
+    private static void trialsBeginWith() {
+        // 201 opens only far below 2000: at first it is shut and stays so, now it is open
+        S.says("BALANCED: from the beginning (TAPS shut)", "house \"room 10 200;window 0 50;radiator 0 0 10;snap 0 201;\" = 1 | "
+                + "turning 0 2001 = -1",
+                "open 0 true = false | go 1 = 0 | radiator 0 5 = 16 | open 0 false = true | turning 0 2001 = -1 | turning 0 2000 = 0");
+        S.says("WAKE: from now on (as all is ..): windows, TAPS, the MINUTE",
+                "house \"room 10 200;window 0 99;radiator 0 0 10;\" = 1 | wake 0 0 2001 = 10 | open 0 true = false | wake 0 0 2001 = -1",
+                "new | house \"room 10 200;radiator 0 0 10;slow 0 400;\" = 1 | go 5 = * | mark = 1 | go 10 = * | room 0 1 = @ten | "
+                + "back = 0",
+                "wake 0 0 @ten = 10 | wake 0 0 @ten+1 = 20",
+                "new | house \"room 1 0;radiator 0 0 1;pump 1;sun 0 1 0 1;\" = 1 | go 50 = 0 | wake 0 0 60 = 10 | wake 0 0 61 = -1",
+                "go 10 = 0 | wake 0 0 60 = 0 | wake 0 0 61 = -1");
+        S.says("A WISH: from now on: windows, SCREWS, OUT",
+                "house \"room 10 200;radiator 0 0 10;draught 0 165;\" = 1 | wish 0 8 2 -1 = 0 | open 0 true = false | "
+                + "wish 0 8 2 -1 = 400 | "
+                + "wish 0 7 2 -1 = 0",
+                "new | house \"room 10 200;room 10 200;radiator 0 0 10;radiator 1 1 10;snap 0 190;\" = 2 | wish 0 13 2 0 = 20 | "
+                + "screw 0 8 = 16 | wish 0 13 2 0 = 13",
+                "new | house \"room 10 200;outer 0 10;radiator 0 0 10;snap 0 190;\" = 1 | wish 0 11 2 -1 = 402 | out 0 2000 = 0 | "
+                + "wish 0 11 2 -1 = 0");
+        S.says("A WISH: from now on: TEMPERATURES, TAPS", "house \"room 10 200;sun 0 100 0 1;radiator 0 0 10;snap 0 190;\" = 1 | "
+                + "go 10 = 0 | "
+                + "room 0 1 = 2100 | wish 0 23 2 -1 = 0 | wish 0 24 2 -1 = 389",
+                // it is open, and stays so without the WISH too
+                "new | house \"room 99 200;radiator 0 0 2;snap 0 203;\" = 1 | go 1 = 0 | radiator 0 5 = 16 | night 0 0 2 = 0 | "
+                + "wish 0 2 2 -1 = 0 | go 1 = 80");
     }
 
     private static void balancedArguments() {
